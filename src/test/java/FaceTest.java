@@ -1,0 +1,87 @@
+import java.io.IOException;
+import java.lang.reflect.Method;
+import java.lang.reflect.Modifier;
+import java.nio.file.Files;
+import java.nio.file.Path;
+import java.util.Arrays;
+import java.util.List;
+import java.util.Set;
+import java.util.TreeSet;
+import java.util.stream.Collectors;
+
+/** The public face of the document, and the rules of LANGUAGE.md that can be seen from outside. */
+public final class FaceTest {
+    private static final String FACE = "points/1 lines/3 draws/1 net/2 joined/0 sets/2 adds/2 fires/1 borrows/1 together/1"
+        + " settles/0 script/1 of/2 stable/0 burns/1 trees/0 parts/1 identity/1 recurrent/1 order/0 heaps/1 rank/1"
+        + " reduced/2 won/0 keeps/1 equal/1 way/2 type/1 clear/0 reads/0 back/0 told/1 digest/0";
+    private static final List<String> RULED_OUT = List.of("throw", "throws", "try", "catch", "finally", "synchronized",
+        "assert", "yield", "->", "::", "Exact", "hashCode", "toString", "Object", "protected", "System.out", "System.nano");
+
+    private static int wrong = 0;
+
+    public static void main(String[] args) throws IOException {
+        methods();
+        others();
+        source();
+        System.out.println(wrong == 0 ? "FaceTest: all as due" : "FaceTest: " + wrong + " wrong");
+        if (wrong != 0) {
+            System.exit(1);
+        }
+    }
+
+    private static void check(String what, boolean so) {
+        if (!so) {
+            wrong++;
+            System.out.println("not so: " + what);
+        }
+    }
+
+    private static void methods() {
+        Set<String> seen = new TreeSet<>();
+        for (Method m : FiredChips.class.getDeclaredMethods()) {
+            if (Modifier.isPublic(m.getModifiers())) {
+                seen.add(m.getName() + "/" + m.getParameterCount());
+                Class<?> due = m.getName().equals("digest") ? long.class : int.class;
+                check(m.getName() + " answers " + due, m.getReturnType() == due);
+                check(m.getName() + " takes int alone", Arrays.stream(m.getParameterTypes()).allMatch(t -> t == int.class));
+                check(m.getName() + " is no static method", !Modifier.isStatic(m.getModifiers()));
+            } else {
+                check(m.getName() + " is private", Modifier.isPrivate(m.getModifiers()) || m.isSynthetic());
+            }
+        }
+        Set<String> due = Arrays.stream(FACE.split(" ")).collect(Collectors.toCollection(TreeSet::new));
+        check("face " + seen, seen.equals(due));
+    }
+
+    private static void others() {
+        check("class is public and final", Modifier.isPublic(FiredChips.class.getModifiers())
+            && Modifier.isFinal(FiredChips.class.getModifiers()));
+        Set<String> open = Arrays.stream(FiredChips.class.getDeclaredFields())
+            .filter(f -> !Modifier.isPrivate(f.getModifiers())).map(f -> f.getName())
+            .collect(Collectors.toCollection(TreeSet::new));
+        check("fields " + open, open.equals(new TreeSet<>(List.of("NONE", "BAD", "NO", "FULL"))));
+        check("constants", FiredChips.NONE == -1 && FiredChips.BAD == -2 && FiredChips.NO == -3 && FiredChips.FULL == -4);
+        check("one constructor", FiredChips.class.getDeclaredConstructors().length == 1);
+        Set<String> names = Arrays.stream(FACE.split(" ")).map(s -> s.split("/")[0]).collect(Collectors.toSet());
+        for (Class<?> inside : FiredChips.class.getDeclaredClasses()) {
+            check(inside + " is static", Modifier.isStatic(inside.getModifiers()));
+            check(inside + " has few fields", inside.getDeclaredFields().length <= 20);
+            for (Method m : inside.getDeclaredMethods()) {
+                check(inside + "." + m.getName() + " has a name of its own", !names.contains(m.getName()));
+            }
+        }
+        check("few classes", FiredChips.class.getDeclaredClasses().length <= 11);
+    }
+
+    private static void source() throws IOException {
+        String text = Files.readString(Path.of("src/main/java/FiredChips.java"));
+        String code = text.replaceAll("(?s)/\\*.*?\\*/", " ").replaceAll("//[^\n]*", " ");
+        for (String word : RULED_OUT) {
+            boolean found = word.matches("\\w+") ? code.matches("(?s).*\\b" + word + "\\b.*") : code.contains(word);
+            check("'" + word + "' is not in the source", !found);
+        }
+        check("one import", code.split("import ").length == 2 && code.contains("import java.util.Arrays;"));
+        check("no package", !code.contains("package "));
+        check("signs 1 to 127", text.chars().allMatch(c -> c > 0 && c < 128));
+    }
+}
