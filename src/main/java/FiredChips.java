@@ -16,11 +16,11 @@ public final class FiredChips {
     private static final int MANY = 1000000;
 
     private final int[] refusals = new int[3];
-    private final Position now = new Position();
+    private final Acts acts = new Acts();
+    private final Position now = acts.now;
+    private final Grounded grounded = acts.grounded;
     private final History history = new History();
-    private final Grounded grounded = new Grounded();
-    private final Acts acts = new Acts(now, grounded);
-    private final RankSearch rankSearch = new RankSearch(grounded);
+    private final RankSearch rankSearch = new RankSearch();
     private final Text text = new Text();
     private final int[] row = new int[MOST_POINTS];
 
@@ -241,7 +241,7 @@ public final class FiredChips {
             return refuse(NO);
         }
         grounded.takeWhole(now, SINK);
-        return rankSearch.rankOf(row, now.genus()) + 1;
+        return rankSearch.rankOf(grounded, row, now.genus()) + 1;
     }
 
     public int reduced(int q, int p) {
@@ -682,15 +682,10 @@ public final class FiredChips {
 
     /** What both calls and ORDERS do: FINE, or BAD or NO with nothing changed. */
     private static final class Acts {
-        private final Position now;
-        private final Grounded grounded;
+        private final Position now = new Position();
+        private final Grounded grounded = new Grounded();
         private final int[] planned = new int[MOST_POINTS];
         private final int[] plannedFired = new int[MOST_POINTS];
-
-        Acts(Position now, Grounded grounded) {
-            this.now = now;
-            this.grounded = grounded;
-        }
 
         int startAnew(int n) {
             if (n < FEWEST_POINTS || n > MOST_POINTS) {
@@ -890,8 +885,8 @@ public final class FiredChips {
         }
 
         /**
-         * A row EQUAL to none at all with more CHIPS than VALENCE on each point but the sink: 2 VALENCE
-         * on each, less what that settles to. Added to a heap it makes sure that a RECURRENT one comes.
+         * A row EQUAL to none at all, with more CHIPS than VALENCE on each point but the sink: 2 VALENCE
+         * on each, less what that settles to. Added to a heap, it makes sure that a RECURRENT one comes.
          */
         private void findNeutral() {
             for (int p = 0; p < count; p++) {
@@ -915,7 +910,7 @@ public final class FiredChips {
             }
         }
 
-        /** The row, debts too, becomes the RECURRENT heap EQUAL to it; the sink's number is of no use then. */
+        /** The row, debts too, becomes the EQUAL one that is a RECURRENT heap; the sink has the rest of the degree. */
         void makeRecurrent(int[] chips) {
             if (determinant <= 0) {
                 return;
@@ -925,6 +920,7 @@ public final class FiredChips {
             for (int p = 0; p < count; p++) {
                 fire(chips, p, (int) Math.floorDiv(solved[p], determinant));
             }
+            // Once for what may be below 0, once more to have VALENCE or more: RECURRENT for sure when settled.
             for (int p = 0; p < count; p++) {
                 chips[p] += 2 * neutral[p];
             }
@@ -943,22 +939,13 @@ public final class FiredChips {
             makeRecurrent(to);
         }
 
-        /** The sink's chips in the REDUCED row of a degree, told by the RECURRENT complement of that row. */
-        int sinkChips(int[] recurrentHeap, int degree) {
-            int left = degree;
-            for (int p = 0; p < count; p++) {
-                if (p != sink) {
-                    left -= matrix[p][p] - 1 - recurrentHeap[p];
-                }
-            }
-            return left;
+        int sinkChipsOfComplement(int[] chips) {
+            return matrix[sink][sink] - 1 - chips[sink];
         }
 
         void reduce(int[] chips) {
-            int degree = degreeOf(chips, count);
             makeRecurrentComplement(chips, heap);
             complement(heap, chips);
-            chips[sink] = sinkChips(heap, degree);
         }
 
         /** The least k, 1 or more, so that the heap k times together is EQUAL to none at all. */
@@ -999,19 +986,13 @@ public final class FiredChips {
      * and (a of what is left, or -1 if that is below 0) together.
      */
     private static final class RankSearch {
-        private final Grounded grounded;
         // one heap for each number of chips taken off: the RECURRENT complement of what is left
         private final int[][] rests = new int[MOST_DEGREE_RANKED + 2][MOST_POINTS];
         private final int[] ignored = new int[MOST_POINTS];
-        private int degree = 0;
         private int least = NONE;
 
-        RankSearch(Grounded grounded) {
-            this.grounded = grounded;
-        }
-
-        int rankOf(int[] chips, int genus) {
-            degree = degreeOf(chips, grounded.count);
+        int rankOf(Grounded grounded, int[] chips, int genus) {
+            int degree = degreeOf(chips, grounded.count);
             if (degree < 0) {
                 return -1;
             }
@@ -1020,26 +1001,24 @@ public final class FiredChips {
                 return degree - genus;
             }
             grounded.makeRecurrentComplement(chips, rests[0]);
-            least = Math.max(grounded.sinkChips(rests[0], degree), -1);
-            takeOff(0, 1);
+            least = Math.max(grounded.sinkChipsOfComplement(rests[0]), -1);
+            takeOff(grounded, 0, 1);
             return least;
         }
 
-        /** Takes one chip more off each point from 'from' on; what goes deeper than 'least' can't be less. */
-        private void takeOff(int taken, int from) {
+        /** Takes one chip more off each point from 'from' on, until what comes can't be below 'least'. */
+        private void takeOff(Grounded grounded, int taken, int from) {
             for (int p = from; p < grounded.count; p++) {
                 if (taken >= least || taken + 1 >= rests.length) {
                     return;
                 }
-                int[] heap = rests[taken + 1];
-                copyRow(rests[taken], heap);
-                heap[p]++;
-                grounded.settle(heap, ignored);
-                int left = grounded.sinkChips(heap, degree - taken - 1);
+                int[] rest = rests[taken + 1];
+                copyRow(rests[taken], rest);
+                rest[p]++;
+                grounded.settle(rest, ignored);
+                int left = grounded.sinkChipsOfComplement(rest);
                 least = Math.min(least, taken + 1 + Math.max(left, -1));
-                if (left >= 0) {
-                    takeOff(taken + 1, p);
-                }
+                takeOff(grounded, taken + 1, p);
             }
         }
     }

@@ -40,6 +40,7 @@ public final class PromisesTest {
         faults();
         stoppedOrders();
         back();
+        backOverEach();
         told();
         digest();
         System.out.println(wrong == 0 ? "PromisesTest: all as due" : "PromisesTest: " + wrong + " wrong");
@@ -692,6 +693,9 @@ public final class PromisesTest {
         chipsDue("reads: blanks", x, 1, 2, -3);
         due("reads: n then c", text(x, "n2;c 1 2;n5;c1-2 3-4 5;"), 4);
         chipsDue("reads: n then c", x, 1, -2, 3, -4, 5);
+        x.points(4);
+        due("reads: c of N points", text(x, "c1 2 3 4;"), 1);
+        x.points(5);
         due("reads: big numbers", text(x, "c999-999 0 00 000;"), 1);
         chipsDue("reads: big numbers", x, 999, -999, 0, 0, 0);
         due("reads: states", x.told(6), 5);
@@ -782,6 +786,42 @@ public final class PromisesTest {
         z.reads();
         z.trees();
         due("no states by what is refused or no S", z.told(6), 0);
+    }
+
+    private static void backOverEach() {
+        for (int i = 0; i < 11; i++) {
+            FiredChips x = network(3, 0, 1, 2, 1, 2, 1);
+            chips(x, 3, 4, 5);
+            x.settles();
+            x.sets(1, 7);
+            long before = x.digest() - stateCountPart(x.told(6));
+            switch (i) {
+                case 0: x.points(4); break;
+                case 1: x.lines(0, 2, 3); break;
+                case 2: x.draws(77); break;
+                case 3: x.sets(0, 9); break;
+                case 4: x.adds(0, 9); break;
+                case 5: x.fires(1); break;
+                case 6: x.borrows(1); break;
+                case 7: x.together(6); break;
+                case 8: x.settles(); break;
+                case 9: x.keeps(2); break;
+                default: text(x, "n2;l0 1 1;c 0 1;z;");
+            }
+            due("a state is left by call " + i, x.told(6), 5);
+            x.back();
+            x.clear();
+            due("back over call " + i, x.digest() - stateCountPart(x.told(6)), before);
+        }
+    }
+
+    /** What told(6) adds to the digest of 3 points: 3 pairs, 12 numbers of points, 5 more come behind it. */
+    private static long stateCountPart(int states) {
+        long part = states;
+        for (int i = 0; i < 3 + 12 + 5; i++) {
+            part *= 31;
+        }
+        return part;
     }
 
     private static void told() {
