@@ -307,6 +307,11 @@ public final class BoundariesTest {
             due("identity, the one heap of a tree", tree.identity(p), alone[p]);
         }
         due("identity, 2 points", Probe.path(2, 3).identity(1), 0);
+        FiredChips used = Probe.triangle(5, 8, 9);
+        used.reduced(1, 1);
+        due("identity behind reduced()", used.identity(1), 1);
+        used.recurrent(1);
+        due("identity behind recurrent()", used.identity(2), 1);
         probe.asked("identity, whatever the chips", () -> Probe.triangle(5, -999, 999), Probe.call("identity", 1), 1);
         probe.asked("identity, the sink", () -> Probe.triangle(5, -999, 999), Probe.call("identity", 0), 0);
     }
@@ -571,6 +576,11 @@ public final class BoundariesTest {
             probe.asked("rank on a tree", () -> Probe.chips(Probe.path(5, 1), 0, 0, chips, 0, 0), Probe.call("rank", 2), d + 1);
             probe.asked("rank on a ring", () -> Probe.triangle(0, chips, 0), Probe.call("rank", 2), Math.max(d, 1));
         }
+        // 2 points, 3 lines, GENUS 2: two chips are worth more on both points than on one
+        probe.asked("rank of (1, 1)", () -> Probe.chips(Probe.path(2, 3), 1, 1), Probe.call("rank", 2), 2);
+        probe.asked("rank of (2, 0)", () -> Probe.chips(Probe.path(2, 3), 2, 0), Probe.call("rank", 2), 1);
+        probe.asked("rank of (0, 2)", () -> Probe.chips(Probe.path(2, 3), 0, 2), Probe.call("rank", 2), 1);
+        probe.asked("rank of (3, 0)", () -> Probe.chips(Probe.path(2, 3), 3, 0), Probe.call("rank", 2), 2);
         // 3 points and GENUS 4: up to DEGREE 2 GENUS less 2 the DUAL tells the rest
         for (int d = -5; d <= 12; d++) {
             FiredChips x = Probe.chips(Probe.whole(3, 2), d - 3, 5, -2);
@@ -803,7 +813,11 @@ public final class BoundariesTest {
             FiredChips x = Probe.network(5);
             Probe.reads(x, "l0 1 1;l1 2 2;l2 3 3;l3 4 1;l4 0 2;c 9 20 0 -1 4;a3 9;z;c0 9 1-7 2;");
             x.keeps(0);
+            x.sets(4, 5);
+            x.sets(1, 6);
             x.keeps(2);
+            x.sets(1, 9);
+            x.sets(4, 2);
             Probe.typed(x, "n2;l0 1 2;c0 5;z;");
             return x;
         };
@@ -818,7 +832,8 @@ public final class BoundariesTest {
         probe.leaves("borrows", rich, Probe.call("borrows", 0), 1);
         probe.leaves("together", rich, Probe.call("together", 3), 4);
         probe.leaves("keeps", rich, Probe.call("keeps", 1), 10005);
-        probe.leaves("keeps, another", rich, Probe.call("keeps", 0), 10005);
+        probe.leaves("keeps, as before", rich, Probe.call("keeps", 0), 10005);
+        probe.leaves("keeps, over another row", rich, Probe.call("keeps", 2), 10005);
         probe.leaves("reads", rich, FiredChips::reads, 4);
         Supplier<FiredChips> heap = () -> {
             FiredChips x = rich.get();

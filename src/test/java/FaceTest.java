@@ -23,6 +23,7 @@ public final class FaceTest {
         methods();
         others();
         source();
+        lengths();
         System.out.println(wrong == 0 ? "FaceTest: all as due" : "FaceTest: " + wrong + " wrong");
         if (wrong != 0) {
             System.exit(1);
@@ -83,5 +84,24 @@ public final class FaceTest {
         check("one import", code.split("import ").length == 2 && code.contains("import java.util.Arrays;"));
         check("no package", !code.contains("package "));
         check("signs 1 to 127", text.chars().allMatch(c -> c > 0 && c < 128));
+    }
+
+    /** Rules 11 and 12: short methods with few parameters; objects are made by fields and constructors alone. */
+    private static void lengths() throws IOException {
+        List<String> lines = Files.readAllLines(Path.of("src/main/java/FiredChips.java"));
+        int methods = 0;
+        for (int i = 0; i < lines.size(); i++) {
+            String line = lines.get(i);
+            if (line.matches(" {4,8}[a-z][\\w \\[\\]]* \\w+\\(.*\\) \\{") && !line.contains(" new ")) {
+                methods++;
+                check("few parameters in line " + (i + 1), line.split(",").length <= 7);
+                String end = line.substring(0, line.indexOf(line.trim())) + "}";
+                check("a short method from line " + (i + 1) + " on", lines.subList(i, lines.size()).indexOf(end) <= 60);
+            }
+            boolean makes = line.matches(".*\\bnew [A-Za-z]+[(\\[].*");
+            check("line " + (i + 1) + " makes objects once", !makes || line.matches(" +private final .* = new .*;")
+                || line.trim().equals("states[i] = new Position();"));
+        }
+        check("methods were found: " + methods, methods > 90);
     }
 }
