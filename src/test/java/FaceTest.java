@@ -1,12 +1,16 @@
 import java.io.IOException;
+import java.lang.reflect.Field;
 import java.lang.reflect.Method;
 import java.lang.reflect.Modifier;
 import java.nio.file.Files;
 import java.nio.file.Path;
 import java.util.Arrays;
+import java.util.HashSet;
 import java.util.List;
 import java.util.Set;
 import java.util.TreeSet;
+import java.util.regex.Matcher;
+import java.util.regex.Pattern;
 import java.util.stream.Collectors;
 
 /** The public face of the document, and the rules of LANGUAGE.md that can be seen from outside. */
@@ -15,7 +19,10 @@ public final class FaceTest {
         + " settles/0 script/1 of/2 stable/0 burns/1 trees/0 parts/1 identity/1 recurrent/1 order/0 heaps/1 rank/1"
         + " reduced/2 won/0 keeps/1 equal/1 way/2 type/1 clear/0 reads/0 back/0 told/1 digest/0";
     private static final List<String> RULED_OUT = List.of("throw", "throws", "try", "catch", "finally", "synchronized",
-        "assert", "yield", "->", "::", "Exact", "hashCode", "toString", "Object", "protected", "System.out", "System.nano");
+        "assert", "yield", "->", "::", "Exact", "hashCode", "toString", "Object", "protected", "System.out", "System.nano",
+        "while (true)", "(;;)", "; ;", "double", "float");
+    private static final Set<String> LIBRARY = Set.of("Arrays.fill", "Math.abs", "Math.max", "Math.min", "Math.floorDiv",
+        "Integer.bitCount", "System.arraycopy");
 
     private static int wrong = 0;
 
@@ -71,6 +78,15 @@ public final class FaceTest {
                 check(inside + "." + m.getName() + " has a name of its own", !names.contains(m.getName()));
             }
         }
+        Set<Class<?>> all = new HashSet<>(Set.of(FiredChips.class.getDeclaredClasses()));
+        all.add(FiredChips.class);
+        for (Class<?> each : all) {
+            for (Field f : each.getDeclaredFields()) {
+                int how = f.getModifiers();
+                check(f + " is a constant or no static field", !Modifier.isStatic(how)
+                    || Modifier.isFinal(how) && f.getType() == int.class);
+            }
+        }
         check("few classes", FiredChips.class.getDeclaredClasses().length <= 11);
     }
 
@@ -80,6 +96,11 @@ public final class FaceTest {
         for (String word : RULED_OUT) {
             boolean found = word.matches("\\w+") ? code.matches("(?s).*\\b" + word + "\\b.*") : code.contains(word);
             check("'" + word + "' is not in the source", !found);
+        }
+        Matcher used = Pattern.compile("\\b(Arrays|Math|Integer|Long|System|String|Character)\\.(\\w+)").matcher(
+            code.replace("import java.util.Arrays;", ""));
+        while (used.find()) {
+            check(used.group() + " is in the library that is left", LIBRARY.contains(used.group()));
         }
         check("one import", code.split("import ").length == 2 && code.contains("import java.util.Arrays;"));
         check("no package", !code.contains("package "));

@@ -17,7 +17,7 @@ import java.util.regex.Pattern;
  */
 public final class OracleTest {
     private static final int NONE = -1, BAD = -2, NO = -3, FULL = -4;
-    private static final int RUNS = 400, CALLS = 400;
+    private static final int RUNS = 700, CALLS_OF_AN_OBJECT = 512;
 
     public static void main(String[] args) {
         int wrong = 0;
@@ -35,11 +35,17 @@ public final class OracleTest {
         FiredChips fast = new FiredChips();
         Slow slow = new Slow(random);
         List<String> calls = new ArrayList<>();
-        for (int i = 0; i < CALLS; i++) {
+        int left = CALLS_OF_AN_OBJECT;
+        for (int i = 0; ; i++) {
             String[] call = run % 2 == 0 ? choose(random, slow) : chooseFew(random, slow);
             int[] a = new int[call.length - 1];
             for (int j = 0; j < a.length; j++) {
                 a[j] = Integer.parseInt(call[j + 1]);
+            }
+            left -= call[0].equals("words") ? 1 + words(a[0]).length() : 1;
+            left--;
+            if (left < 0) {
+                return 0;
             }
             calls.add(call[0] + Arrays.toString(a));
             long got = onFast(fast, call[0], a);
@@ -53,7 +59,6 @@ public final class OracleTest {
                 return 1;
             }
         }
-        return 0;
     }
 
     private static String[] choose(Random r, Slow slow) {
